@@ -10,11 +10,14 @@ public final class OrderTest {
         loweringByHalvesThenByOne();
         halfThatIsOneIsNotAskedTwice();
         loweringNegativeWords();
+        loweringStartsAtTheFirstByte();
         leavingOutAnew();
         rememberedAmongEqualWords();
+        rememberedAreTheSameWords();
         rememberedCostNoAsk();
         spentOnlyAtOneMore();
         emptiedByPieces();
+        wholeBudget();
         Checks.end("OrderTest");
     }
 
@@ -145,6 +148,41 @@ public final class OrderTest {
         Checks.due("leaving out anew, remembered, then lowering", Runs.textOfCounts(x), "1 1 10 1 4 0 4 600 1 2");
     }
 
+    private static void loweringStartsAtTheFirstByte() {
+        ShortenPrograms x = Runs.begun(600, 0, 0x01010101);
+        x.judge(1);
+        x.judge(-1);
+        x.judge(-1);
+        Checks.due("highest byte of the second word", Runs.textOfAsked(x), "[0, " + 0x00010101 + "]");
+        x.judge(-1);
+        x.judge(-1);
+        Checks.due("its third byte", Runs.textOfAsked(x), "[0, " + 0x01010001 + "]");
+        // A new program in the midst of lowering starts from its own first byte.
+        Runs.feed(x, 0x01000001);
+        x.begin();
+        x.judge(1);
+        x.judge(-1);
+        Checks.due("highest byte of a new program", Runs.textOfAsked(x), "[1]");
+        x.judge(1);
+        Checks.due("then its lowest byte", Runs.textOfAsked(x), "[0]");
+        x.judge(-1);
+        Checks.due("counts", Runs.textOfCounts(x), "2 1 4 2 1 0 1 600 1 2");
+    }
+
+    private static void rememberedAreTheSameWords() {
+        // [0, 31] and [1, 0] are alike to a mark that is made of 31 times the last and the word.
+        ShortenPrograms x = Runs.begun(600, 1, 0, 31);
+        x.judge(1);
+        x.judge(-1);
+        x.judge(-1);
+        Checks.due("another program of the same mark", Runs.textOfAsked(x), "[1, 0]");
+        Checks.due("is not known", x.known(0, 2, 0, 0), -2);
+        Checks.due("nor remembered", x.count(3), 0);
+        ShortenPrograms one = Runs.begun(600, -31);
+        one.judge(1);
+        Checks.due("nor is one of another length", one.count(2), 2);
+    }
+
     private static void leavingOutAnew() {
         ShortenPrograms x = Runs.begun(600, 7, 1, 9, 0);
         // Words can be left out only after the 7 was lowered.
@@ -195,6 +233,24 @@ public final class OrderTest {
         Checks.dueThrow("known", IndexOutOfBoundsException.class, () -> x.known(0, 0, 0, 0));
         ShortenPrograms odd = Runs.begun(600, Runs.upTo(47));
         Checks.due("asks of 47 when all are good", sizesWhenAllGood(odd), "47 24 1 0 ");
+    }
+
+    private static void wholeBudget() {
+        // More calls than are promised: only that nothing is thrown and that it ends is looked at.
+        ShortenPrograms x = Runs.begun(600, new int[48]);
+        for (int round = 0; round < 3; round++) {
+            for (int k = 0; k < 48; k++) {
+                x.feed(-1 - k);
+            }
+            x.begin();
+            x.judge(1);
+            int calls = 0;
+            while (x.count(0) == 1 && calls < 2000) {
+                x.judge(-1);
+                calls++;
+            }
+            Checks.due("it ends with its budget", calls < 2000 ? 1 : 0, 1);
+        }
     }
 
     private static String sizesWhenAllGood(ShortenPrograms x) {
