@@ -6,8 +6,18 @@ final class Checks {
 
     private static int done = 0;
     private static int wrong = 0;
+    private static String sentence = "";
 
     private Checks() {
+    }
+
+    /** The sentence of the document that the answers from now on are due to; it is told with a wrong one. */
+    static void about(String text) {
+        sentence = text;
+    }
+
+    static int done() {
+        return done;
     }
 
     static void due(String what, long got, long want) {
@@ -22,6 +32,20 @@ final class Checks {
         if (!got.equals(want)) {
             tell(what + " answered " + got + ", due is " + want);
         }
+    }
+
+    static void due(String what, boolean is) {
+        done++;
+        if (!is) {
+            tell(what);
+        }
+    }
+
+    /** A refused call: the exception, and everything that can be looked at is as it was before. */
+    static void dueRefused(String what, Class<? extends RuntimeException> want, ShortenPrograms x, Call call) {
+        String before = Runs.textOfAll(x);
+        dueThrow(what, want, call);
+        due("all that can be seen after the refused " + what, Runs.textOfAll(x), before);
     }
 
     /** The class itself, not one below it: what the machine throws is never due. */
@@ -41,7 +65,7 @@ final class Checks {
     private static void tell(String text) {
         wrong++;
         if (wrong <= 20) {
-            System.out.println(text);
+            System.out.println(sentence.isEmpty() ? text : text + " [" + sentence + "]");
         }
     }
 

@@ -181,6 +181,8 @@ public final class OrderTest {
         ShortenPrograms one = Runs.begun(600, -31);
         one.judge(1);
         Checks.due("nor is one of another length", one.count(2), 2);
+        ShortenPrograms longer = Runs.begun(600, 1, 2, 3, -31);
+        Checks.due("nor is a longer one", Runs.textOfNext(longer, 1, 1, -1), "[3, -31][][-31]");
     }
 
     private static void leavingOutAnew() {

@@ -39,7 +39,8 @@ final class Runs {
 
     static String textOfCurrent(ShortenPrograms x) {
         StringBuilder text = new StringBuilder();
-        for (int k = 0; k < x.count(1); k++) {
+        int length = x.count(1);
+        for (int k = 0; k < length; k++) {
             text.append(k == 0 ? "" : " ").append(x.at(k)).append('@').append(x.from(k));
         }
         return text.toString();
@@ -49,6 +50,26 @@ final class Runs {
         StringBuilder text = new StringBuilder();
         for (int what = 0; what < 10; what++) {
             text.append(what == 0 ? "" : " ").append(x.count(what));
+        }
+        return text.toString();
+    }
+
+    /** All that can be looked at without changing it, but for what is known of single bytes. */
+    static String textOfAll(ShortenPrograms x) {
+        StringBuilder text = new StringBuilder(textOfCounts(x));
+        text.append(" / ").append(textOfCurrent(x)).append(" / ");
+        int length = x.count(1);
+        for (int k = 0; k < length; k++) {
+            text.append(x.known(0, k, 0, 0)).append(' ');
+        }
+        return text.append(x.count(0) == 1 ? textOfAsked(x) : "nothing asked").toString();
+    }
+
+    /** Gives the answers one by one; the programs asked behind each, "-" where none is. */
+    static String textOfNext(ShortenPrograms x, int... answers) {
+        StringBuilder text = new StringBuilder();
+        for (int answer : answers) {
+            text.append(x.judge(answer) == 1 ? textOfAsked(x) : "-");
         }
         return text.toString();
     }
@@ -71,6 +92,33 @@ final class Runs {
             }
         }
         return false;
+    }
+
+    static ShortenPrograms least() {
+        ShortenPrograms x = begun(9, 0);
+        x.judge(1);
+        x.judge(-1);
+        return x;
+    }
+
+    static ShortenPrograms spent() {
+        ShortenPrograms x = begun(2, 5, 6);
+        x.judge(1);
+        x.judge(-1);
+        return x;
+    }
+
+    static ShortenPrograms refused() {
+        ShortenPrograms x = begun(9, 5, 6);
+        x.judge(-1);
+        return x;
+    }
+
+    static ShortenPrograms asking() {
+        ShortenPrograms x = begun(9, 5, 6, 7, 8);
+        x.judge(1);
+        x.judge(-1);
+        return x;
     }
 
     static int[] upTo(int many) {
