@@ -37,7 +37,7 @@ final class Checks {
     static void due(String what, boolean is) {
         done++;
         if (!is) {
-            tell(what);
+            tell("not so: " + what);
         }
     }
 
