@@ -1,7 +1,10 @@
+import java.io.IOException;
 import java.lang.reflect.Constructor;
 import java.lang.reflect.Field;
 import java.lang.reflect.Method;
 import java.lang.reflect.Modifier;
+import java.nio.file.Files;
+import java.nio.file.Path;
 import java.util.Arrays;
 import java.util.TreeSet;
 
@@ -21,7 +24,7 @@ public final class FaceTest {
         "public int count(int)",
     };
 
-    public static void main(String[] args) {
+    public static void main(String[] args) throws IOException {
         TreeSet<String> face = new TreeSet<>();
         for (Field field : ShortenPrograms.class.getDeclaredFields()) {
             if (isSeen(field.getModifiers())) {
@@ -39,9 +42,24 @@ public final class FaceTest {
             }
         }
         Checks.due("the face", face.toString(), new TreeSet<>(Arrays.asList(FACE)).toString());
+        if (args.length > 0 && Files.exists(Path.of(args[0]))) {
+            Checks.due("the face in the document", told(Files.readString(Path.of(args[0]))).toString(), face.toString());
+        }
         Checks.due("the class", Modifier.toString(ShortenPrograms.class.getModifiers()), "public final");
         Checks.due("NONE", ShortenPrograms.NONE, -1);
         Checks.end("FaceTest");
+    }
+
+    /** The members in the document's code block, in the form that FACE has. */
+    private static TreeSet<String> told(String document) {
+        TreeSet<String> told = new TreeSet<>();
+        for (String line : document.split("\\R")) {
+            if (line.startsWith("    public ")) {
+                told.add(line.trim().replaceAll("( = .*)?;$", "").replaceAll("int \\w+(?=[,)])", "int")
+                    .replace(" throws ", " ").replace("int, ", "int,").replace("Exception, ", "Exception "));
+            }
+        }
+        return told;
     }
 
     private static boolean isSeen(int modifiers) {

@@ -1,10 +1,15 @@
-/** The sentences of 'Terms' and of 'What it is' on 512 calls, each with the boundary cases that it names. */
+/** The sentences of 'What it is' and of 'Terms', each with the boundary cases that it names. */
 public final class TermsSentenceTest {
     public static void main(String[] args) {
         Sentences sentences = new Sentences(args);
         sentences.section("What it is");
+        sentences.test("Failing programs made short: words left out by halves, then smaller pieces, then one by one;"
+            + " their bytes lowered; each program that comes of it is asked of a judge, whose answer has to be the same"
+            + " difference; asked once, remembered, in one fixed order, as long as asks are left.",
+            TermsSentenceTest::madeShort);
         sentences.test("An object is used for at most 512 calls after it has been made; what later calls answer is free.",
             TermsSentenceTest::the512thCall);
+        sentences.end();
         sentences.section("Terms");
         programsAndAnswers(sentences);
         LeavingOutCases.tests(sentences);
@@ -42,6 +47,38 @@ public final class TermsSentenceTest {
             TermsSentenceTest::theFirstExceptionTold);
         sentences.test("The constants: `NONE = -1`: Nothing there.",
             TermsSentenceTest::none);
+    }
+
+    /** Programs fail with 6 when they hold words of which the lowest bytes come to 9 or more. */
+    private static int lowestBytes(int[] words) {
+        int sum = 0;
+        for (int word : words) {
+            sum += word & 255;
+        }
+        return sum >= 9 ? 6 : sum % 3 - 1;
+    }
+
+    private static void madeShort() {
+        ShortenPrograms x = Runs.begun(600, 2, 3, 2, 3, 2, 3, 0x0707);
+        String asks = Runs.textOfAsks(x, TermsSentenceTest::lowestBytes);
+        // Left out by threes and by ones; 3 lowered to 2 and 0x0707 to 7; left out and lowered anew.
+        Checks.due("all that is asked, in its order", asks, "[2, 3, 2, 3, 2, 3, 1799]"
+            + "[3, 2, 3, 1799][1799][3, 2, 3][2, 3, 1799][3, 1799][3]"
+            + "[0, 1799][1, 1799][2, 1799][2, 7][2, 0][2, 3][2, 6]"
+            + "[7][2][0, 7][1, 7]");
+        Checks.due("what is left", Runs.textOfCurrent(x), "2@5 7@6");
+        Checks.due("counts", Runs.textOfCounts(x), "2 2 18 8 5 5 2 600 6 2");
+        String[] each = asks.substring(1, asks.length() - 1).split("\\]\\[", -1);
+        Checks.due("asked once", new java.util.HashSet<>(java.util.Arrays.asList(each)).size(), each.length);
+        int before = -1;
+        for (int budget = 1; budget <= each.length; budget++) {
+            ShortenPrograms less = Runs.begun(budget, 2, 3, 2, 3, 2, 3, 0x0707);
+            String some = Runs.textOfAsks(less, TermsSentenceTest::lowestBytes);
+            Checks.due("the same order with a budget of " + budget, asks.startsWith(some) && some.length() > before);
+            Checks.due("asks with a budget of " + budget, less.count(2), budget);
+            Checks.due("its end", less.count(0), budget < each.length ? 3 : 2);
+            before = some.length();
+        }
     }
 
     /** 48 words -1 to -48 and 511 calls: 79 asks to leave out, then three for each byte, none good. */
